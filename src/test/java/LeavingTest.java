@@ -1,0 +1,241 @@
+import java.util.NoSuchElementException;
+
+/** Promises 31 to 33: when a car would leave, and which one would be the first. */
+public final class LeavingTest {
+    private static final Class<IllegalStateException> STATE = IllegalStateException.class;
+    private static final Class<NoSuchElementException> MISSING = NoSuchElementException.class;
+    private static final Class<UnsupportedOperationException> LATE = UnsupportedOperationException.class;
+
+    public static void main(String[] args) {
+        simple();
+        askingChangesNothing();
+        freeStationAndNewCar();
+        faultTold();
+        justWithinTheHorizon();
+        stillHeldUp();
+        never();
+        roundsOfTheTrial();
+        wrong();
+        nextToLeave();
+        nextOfTwo();
+        Check.end();
+    }
+
+    private static void expect(String what, Lineclock x, int car, int due) {
+        Check.same("promise 31: " + what, x.leavesIn(car), due);
+        Check.same("promise 32: " + what, x.leavesByTicks(car), due);
+    }
+
+    private static void expectLate(String what, Lineclock x, int car) {
+        Check.fails("promise 31: " + what, x, LATE, () -> x.leavesIn(car));
+        Check.fails("promise 32: " + what, x, LATE, () -> x.leavesByTicks(car));
+    }
+
+    private static void simple() {
+        Lineclock x = new Lineclock();
+        x.addStation(3, -1, 0, 0);
+        x.addStation(4, -1, 0, 0);
+        x.addCar(0);
+        x.addCar(0);
+        expect("1 + 3 + 4", x, 0, 8);
+        expect("held up one tick", x, 1, 12);
+        x.tick(1);
+        expect("a tick less", x, 0, 7);
+        x.tick(6);
+        expect("the next tick", x, 0, 1);
+        x.tick(1);
+        Check.same("promise 31: as was told", x.stateOf(0), 'd');
+        expect("the second one", x, 1, 4);
+    }
+
+    private static void askingChangesNothing() {
+        Lineclock x = new Lineclock();
+        x.addStation(2, 0, 1, 4);
+        x.addStation(3, 1, 1, 4);
+        x.supply(0, 20);
+        x.addCar(1);
+        x.addCar(3);
+        x.tick(2);
+        String before = Snapshot.of(x);
+        x.leavesIn(0);
+        Check.same("promise 31: changes nothing", Snapshot.of(x), before);
+        x.leavesByTicks(0);
+        Check.same("promise 32: changes nothing", Snapshot.of(x), before);
+        x.nextToLeave();
+        Check.same("promise 33: changes nothing", Snapshot.of(x), before);
+        expectLate("part 1 never comes", x, 1);
+    }
+
+    /** A new car enters in the very next tick, though the line is quiet for longer. */
+    private static void freeStationAndNewCar() {
+        Lineclock x = new Lineclock();
+        x.addStation(1, -1, 0, 0);
+        x.addStation(9, -1, 0, 0);
+        x.addCar(0);
+        x.tick(2);
+        x.addCar(0);
+        expect("in at once, held up, then 9 more", x, 1, 18);
+        expect("the first one", x, 0, 9);
+        x.setPeriod(60);
+        Lineclock y = new Lineclock();
+        y.addStation(5, -1, 0, 0);
+        y.setPeriod(60);
+        y.tick(1);
+        y.addCar(0);
+        expect("nothing else happens but the car enters", y, 0, 6);
+    }
+
+    /** A fault told at a free station calls a car out of the loop in the very next tick. */
+    private static void faultTold() {
+        Lineclock x = new Lineclock();
+        x.setPeriod(60);
+        x.addStation(1, -1, 0, 0);
+        x.addStation(9, -1, 0, 0);
+        x.addCar(0);
+        x.addCar(0);
+        x.tick(2);
+        x.fault(0, 0);
+        x.tick(9);
+        x.fault(0, 1);
+        x.tick(1);
+        Check.same("promise 31: it waits in the loop for station 1", Snapshot.trace(x, 0), "0+1+L0+L");
+        expect("eight ticks, and nine", x, 0, 17);
+        x.fault(0, 0);
+        expect("station 0 in between", x, 0, 17);
+        x.tick(1);
+        Check.same("promise 31: it is there", x.stationOf(0), 0);
+        expect("a tick less", x, 0, 16);
+    }
+
+    /** 300 ticks are within, 301 are not. */
+    private static void justWithinTheHorizon() {
+        Lineclock x = new Lineclock();
+        for (int i = 0; i < 2; i++) {
+            x.addStation(9, -1, 0, 0);
+        }
+        for (int i = 0; i < 30; i++) {
+            x.addCar(0);
+        }
+        expect("the first one", x, 0, 19);
+        expect("the last one", x, 29, 19 + 29 * 9);
+        Lineclock y = new Lineclock();
+        for (int i = 0; i < 4; i++) {
+            y.addStation(9, -1, 0, 0);
+        }
+        for (int i = 0; i < 30; i++) {
+            y.addCar(0);
+        }
+        expect("298 ticks", y, 29, 37 + 29 * 9);
+        Lineclock z = new Lineclock();
+        for (int i = 0; i < 4; i++) {
+            z.addStation(9, -1, 0, 0);
+        }
+        z.addStation(2, -1, 0, 0);
+        for (int i = 0; i < 30; i++) {
+            z.addCar(0);
+        }
+        expect("just 300 ticks", z, 29, 300);
+        Lineclock w = new Lineclock();
+        for (int i = 0; i < 4; i++) {
+            w.addStation(9, -1, 0, 0);
+        }
+        w.addStation(3, -1, 0, 0);
+        for (int i = 0; i < 30; i++) {
+            w.addCar(0);
+        }
+        expectLate("301 ticks", w, 29);
+        w.tick(1);
+        expect("300 ticks then", w, 29, 300);
+    }
+
+    /** A car that is held up has no tick to go, and yet does nothing in the next tick. */
+    private static void stillHeldUp() {
+        Lineclock x = new Lineclock();
+        x.addStation(1, -1, 0, 0);
+        x.addStation(9, -1, 0, 0);
+        x.addCar(0);
+        x.addCar(0);
+        x.tick(4);
+        Check.same("promise 31: held up", x.toGo(1), 0);
+        expect("7 ticks, and 9", x, 1, 16);
+    }
+
+    private static void never() {
+        Lineclock x = new Lineclock();
+        x.addStation(1, 0, 1, 4);
+        x.addCar(1);
+        expectLate("no part", x, 0);
+        Check.fails("promise 33: nobody leaves", x, MISSING, () -> x.nextToLeave());
+        x.tick(1);
+        expectLate("no part, at the station", x, 0);
+        x.supply(0, 1);
+        expect("the round in tick 10", x, 0, 10);
+        Check.same("promise 33: it leaves then", x.nextToLeave(), 0);
+    }
+
+    /** The shelves, the store and the lacks of a trial are not those of the line. */
+    private static void roundsOfTheTrial() {
+        Lineclock x = new Lineclock();
+        x.addStation(2, 3, 2, 4);
+        x.supply(3, 6);
+        x.setPeriod(7);
+        for (int i = 0; i < 4; i++) {
+            x.addCar(8);
+        }
+        expect("fitted in tick 7", x, 0, 9);
+        expect("in the loop meanwhile, fitted behind it", x, 1, 11);
+        expect("fitted by the second round", x, 2, 17);
+        expectLate("the fourth one gets none", x, 3);
+        Check.same("promise 31: the store is as it was", x.inStore(3), 6);
+        Check.same("promise 31: the shelf is as it was", x.onShelf(0), 0);
+        Check.same("promise 31: no lacks", x.lacks(0), 0);
+        Check.same("promise 31: nothing fitted", x.fitted(), 0L);
+        Check.same("promise 31: no sign", x.countOf('-'), 0);
+    }
+
+    private static void wrong() {
+        Lineclock x = new Lineclock();
+        x.addStation(1, -1, 0, 0);
+        x.addCar(0);
+        x.tick(2);
+        Check.fails("promise 31: it has left", x, STATE, () -> x.leavesIn(0));
+        Check.fails("promise 32: it has left", x, STATE, () -> x.leavesByTicks(0));
+        Check.fails("promise 31: no such car", x, MISSING, () -> x.leavesIn(1));
+        Check.fails("promise 32: no such car", x, MISSING, () -> x.leavesByTicks(1));
+        Check.fails("promise 31: car -1", x, MISSING, () -> x.leavesIn(-1));
+        Check.fails("promise 32: car -1", x, MISSING, () -> x.leavesByTicks(-1));
+        Check.fails("promise 33: nobody is there any more", x, MISSING, () -> x.nextToLeave());
+        Lineclock y = new Lineclock();
+        Check.fails("promise 33: no station", y, MISSING, () -> y.nextToLeave());
+    }
+
+    private static void nextToLeave() {
+        Lineclock x = new Lineclock();
+        x.addStation(1, 0, 1, 4);
+        x.addStation(1, -1, 0, 0);
+        x.addCar(1);
+        x.addCar(0);
+        Check.same("promise 33: the first one lacks a part", x.nextToLeave(), 1);
+        x.swap(0, 1);
+        x.tick(3);
+        Check.same("promise 33: it has left", x.leftAt(0), 1);
+        Check.fails("promise 33: nobody else", x, MISSING, () -> x.nextToLeave());
+        x.supply(0, 1);
+        Check.same("promise 33: once there is a unit", x.nextToLeave(), 0);
+    }
+
+    /** If two leave in one tick, the one from the higher station is the first. */
+    private static void nextOfTwo() {
+        Lineclock x = new Lineclock();
+        x.addStation(3, -1, 0, 0);
+        x.addStation(3, -1, 0, 0);
+        x.addCar(0);
+        x.addCar(0);
+        x.tick(4);
+        x.fault(0, 0);
+        x.tick(3);
+        expect("both in three ticks", x, 0, 3);
+        expect("both in three ticks", x, 1, 3);
+        Check.same("promise 33: the higher station first", x.nextToLeave(), 1);
+    }
+}
