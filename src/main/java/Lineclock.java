@@ -26,6 +26,7 @@ public final class Lineclock {
     private static final char GONE = 'd';
 
     private static final String SIGNS = "+-.Lx";
+    private static final int SIGN_KINDS = 5;
     private static final char FITTED = '+';
     private static final char LACKING = '-';
     private static final char PASSED = '.';
@@ -243,29 +244,46 @@ public final class Lineclock {
 
     public int leavesIn(int car) throws NoSuchElementException, IllegalStateException, UnsupportedOperationException {
         requireNotGone(car);
-        int ticks = ticksByEvents(car);
-        if (ticks == NONE) {
-            throw new UnsupportedOperationException("the car does not leave soon enough");
+        trial.copyFrom(line);
+        int passed = 0;
+        for (int events = 0; events < HORIZON; events++) {
+            int quiet = trial.quietTicks();
+            if (passed + quiet >= HORIZON) {
+                break;
+            }
+            trial.passQuietTicks(quiet);
+            trial.passTick();
+            passed += quiet + 1;
+            if (trial.hasGone(car)) {
+                return passed;
+            }
         }
-        return ticks;
+        throw new UnsupportedOperationException("the car does not leave soon enough");
     }
 
     public int leavesByTicks(int car)
             throws NoSuchElementException, IllegalStateException, UnsupportedOperationException {
         requireNotGone(car);
-        int ticks = ticksOneByOne(car);
-        if (ticks == NONE) {
-            throw new UnsupportedOperationException("the car does not leave soon enough");
+        trial.copyFrom(line);
+        for (int passed = 1; passed <= HORIZON; passed++) {
+            trial.passTick();
+            if (trial.hasGone(car)) {
+                return passed;
+            }
         }
-        return ticks;
+        throw new UnsupportedOperationException("the car does not leave soon enough");
     }
 
     public int nextToLeave() throws NoSuchElementException {
-        int car = firstToLeave();
-        if (car == NONE) {
-            throw new NoSuchElementException("no car leaves soon enough");
+        trial.copyFrom(line);
+        int before = line.gone.size;
+        for (int passed = 1; passed <= HORIZON; passed++) {
+            trial.passTick();
+            if (trial.gone.size > before) {
+                return trial.gone.at(before);
+            }
         }
-        return car;
+        throw new NoSuchElementException("no car leaves soon enough");
     }
 
     public int traceLength(int car) throws NoSuchElementException {
@@ -368,47 +386,6 @@ public final class Lineclock {
             throw new IndexOutOfBoundsException("no such place");
         }
         return row.at(place);
-    }
-
-    private int ticksByEvents(int car) {
-        trial.copyFrom(line);
-        int passed = 0;
-        for (int events = 0; events < HORIZON; events++) {
-            int quiet = trial.quietTicks();
-            if (passed + quiet >= HORIZON) {
-                return NONE;
-            }
-            trial.passQuietTicks(quiet);
-            trial.passTick();
-            passed += quiet + 1;
-            if (trial.hasGone(car)) {
-                return passed;
-            }
-        }
-        return NONE;
-    }
-
-    private int ticksOneByOne(int car) {
-        trial.copyFrom(line);
-        for (int passed = 1; passed <= HORIZON; passed++) {
-            trial.passTick();
-            if (trial.hasGone(car)) {
-                return passed;
-            }
-        }
-        return NONE;
-    }
-
-    private int firstToLeave() {
-        trial.copyFrom(line);
-        int before = line.gone.size;
-        for (int passed = 1; passed <= HORIZON; passed++) {
-            trial.passTick();
-            if (trial.gone.size > before) {
-                return trial.gone.at(before);
-            }
-        }
-        return NONE;
     }
 
     /** A place on the line, with its shelf. */
@@ -597,7 +574,7 @@ public final class Lineclock {
     private static final class Trace {
         private char[] signs = new char[FIRST_TRACE_ROOM];
         private int length;
-        private final int[] totals = new int[SIGNS.length()];
+        private final int[] totals = new int[SIGN_KINDS];
 
         boolean has(int index) {
             return index >= 0 && index < length && index < signs.length;

@@ -6,12 +6,16 @@ public final class LeavingTest {
     private static final Class<NoSuchElementException> MISSING = NoSuchElementException.class;
     private static final Class<UnsupportedOperationException> LATE = UnsupportedOperationException.class;
 
+    /** By the order in which the cars of nextWithinTheHorizon go round. */
+    private static final int LAST_FITTED = 1;
+
     public static void main(String[] args) {
         simple();
         askingChangesNothing();
         freeStationAndNewCar();
         faultTold();
         justWithinTheHorizon();
+        nextWithinTheHorizon();
         stillHeldUp();
         never();
         roundsOfTheTrial();
@@ -144,8 +148,39 @@ public final class LeavingTest {
             w.addCar(0);
         }
         expectLate("301 ticks", w, 29);
+        w.setPeriod(59);
+        expectLate("301 ticks, the last three of them quiet", w, 29);
         w.tick(1);
         expect("300 ticks then", w, 29, 300);
+    }
+
+    /**
+     * Each round brings what one car needs at station 0, and only car 1 needs nothing of what never comes at
+     * station 7: it is the last one to be fitted at station 0, in tick 360, and the first one to leave.
+     */
+    private static void nextWithinTheHorizon() {
+        Lineclock x = new Lineclock();
+        x.addStation(1, 0, 4, 4);
+        for (int i = 1; i < 7; i++) {
+            x.addStation(1, -1, 0, 0);
+        }
+        x.addStation(1, 1, 1, 4);
+        x.setPeriod(60);
+        x.supply(0, 99);
+        for (int i = 0; i < 6; i++) {
+            x.addCar(i == LAST_FITTED ? 1 : 3);
+        }
+        x.tick(60);
+        Check.fails("promise 33: 301 ticks", x, MISSING, () -> x.nextToLeave());
+        expectLate("301 ticks by rounds", x, LAST_FITTED);
+        x.tick(1);
+        Check.same("promise 33: 300 ticks", x.nextToLeave(), LAST_FITTED);
+        expect("300 ticks by rounds", x, LAST_FITTED, 300);
+        for (int i = 0; i < 5; i++) {
+            x.tick(60);
+        }
+        Check.same("promise 33: as was told", x.leftAt(0), LAST_FITTED);
+        Check.same("promise 33: all rounds were needed", x.fitted(), 24L);
     }
 
     /** A car that is held up has no tick to go, and yet does nothing in the next tick. */

@@ -140,7 +140,8 @@ public final class ModelTest {
         }
         for (int i = 0; i < m.line.size(); i++) {
             Model.Place p = m.line.get(i);
-            text.append("; station ").append(i).append(": shelf ").append(p.shelf).append(" lacks ").append(m.lacksAt(i));
+            text.append("; station ").append(i).append(": shelf ").append(p.shelf);
+            text.append(" lacks ").append(m.lacksAt(i));
             text.append(" car ").append(p.wagon == null ? "IllegalStateException" : m.all.indexOf(p.wagon));
         }
         for (int car = 0; car < m.all.size(); car++) {

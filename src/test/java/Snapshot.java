@@ -1,4 +1,4 @@
-/** All that an object tells of itself, as one text. (It makes more than 512 calls; this program does not count them.) */
+/** All that an object tells of itself, as one text. Many take over 512 calls; the class does not count them. */
 final class Snapshot {
     private Snapshot() {
     }

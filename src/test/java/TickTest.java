@@ -14,6 +14,7 @@ public final class TickTest {
         roundsGoByRisingNumbers();
         lastStationsGoFirst();
         twoComeToTheLoop();
+        othersPassInTheLoop();
         loopInItsOrder();
         loopBeforeWaiting();
         backCarsDoNotGoAlong();
@@ -229,7 +230,21 @@ public final class TickTest {
         Check.same("promise 8: it is in the loop", x.loopedAt(0), 1);
     }
 
-    /** Cars in the loop are gone through in their order, and one that finds its station taken lets others by. */
+    /** A car in the loop that finds its station taken lets the ones behind it by. */
+    private static void othersPassInTheLoop() {
+        Lineclock x = plainStations(1);
+        x.addStation(6, 0, 1, 4);
+        addCars(x, 1, 1, 0);
+        x.tick(9);
+        x.fault(1, 0);
+        x.tick(5);
+        expectTrace("station 1 is taken by the third one", x, 2, "0+1.");
+        expectTrace("the first one stays in the loop", x, 0, "0+1-L");
+        expectTrace("the second one enters station 0", x, 1, "0+1-L0+");
+        Check.same("promise 8: one is in the loop", x.looped(), 1);
+    }
+
+    /** Cars in the loop are gone through in their order; one that goes round again is behind the others. */
     private static void loopInItsOrder() {
         Lineclock x = new Lineclock();
         x.addStation(1, 0, 1, 4);
