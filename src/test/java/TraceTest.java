@@ -73,6 +73,7 @@ public final class TraceTest {
         Check.same("promise 34: 9999 ticks", x.traceLength(0), 2 + 9998 * 3);
         Check.same("promise 36: each time round", x.countOf('L'), 9998);
         Check.same("promise 36: all lacks", x.countOf('-'), 9998);
+        Check.same("promise 35: the first station", x.traceAt(0, 0), '0');
         Check.same("promise 35: the first sign", x.traceAt(0, 1), '-');
         for (int i = 0; i < 9997; i++) {
             int start = 2 + i * 3;
