@@ -6,7 +6,7 @@ import java.util.ArrayList;
 import java.util.List;
 import java.util.TreeSet;
 
-/** The public face, as the document writes it, and nothing beside it (rule 1 of the language). */
+/** The public face, as the document writes it, and nothing beside it (rule 1 of the language); fields and sizes. */
 public final class FaceTest {
     private static final String I = "IllegalArgumentException";
     private static final String S = "IllegalStateException";
@@ -14,6 +14,9 @@ public final class FaceTest {
     private static final String U = "UnsupportedOperationException";
     private static final String P = "IndexOutOfBoundsException";
     private static final String A = "ArithmeticException";
+
+    /** The types that rule 5 of the language allows for a constant, but for arrays, which the class has none of. */
+    private static final List<String> CONSTANTS = List.of("int", "long", "boolean", "char", "String");
 
     private static final String[] FACE = {
         "int addStation(int,int,int,int) " + I + " " + S,
@@ -64,6 +67,10 @@ public final class FaceTest {
         methods();
         constructors();
         othersArePrivate();
+        fieldsAndSizes(Lineclock.class);
+        for (Class<?> inside : Lineclock.class.getDeclaredClasses()) {
+            fieldsAndSizes(inside);
+        }
         Check.end();
     }
 
@@ -119,5 +126,24 @@ public final class FaceTest {
             Check.isTrue(inside + " is private", Modifier.isPrivate(inside.getModifiers()));
             Check.isTrue(inside + " is static", Modifier.isStatic(inside.getModifiers()));
         }
+    }
+
+    private static void fieldsAndSizes(Class<?> kind) {
+        int fields = 0;
+        for (Field field : kind.getDeclaredFields()) {
+            if (Modifier.isStatic(field.getModifiers())) {
+                Class<?> type = field.getType();
+                Check.isTrue("rule 5: " + field + " is final", Modifier.isFinal(field.getModifiers()));
+                Check.isTrue("rule 5: the type of " + field, CONSTANTS.contains(type.getSimpleName()));
+            } else {
+                fields++;
+            }
+        }
+        Check.isTrue("rule 11: some twenty fields in " + kind, fields <= 20);
+        for (Method method : kind.getDeclaredMethods()) {
+            Check.isTrue("rule 11: at most seven parameters of " + method, method.getParameterCount() <= 7);
+        }
+        Check.same("rule 1: no class inside a class inside " + kind,
+                kind == Lineclock.class ? 0 : kind.getDeclaredClasses().length, 0);
     }
 }

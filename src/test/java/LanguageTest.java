@@ -1,6 +1,8 @@
 import java.io.IOException;
 import java.nio.file.Files;
 import java.nio.file.Path;
+import java.util.List;
+import java.util.TreeSet;
 import java.util.regex.Matcher;
 import java.util.regex.Pattern;
 
@@ -11,6 +13,16 @@ public final class LanguageTest {
         "\\bequals\\b", "\\bhashCode\\b", "\\btoString\\b", "Exact\\b", "\\binstanceof\\b", "\\bvar\\b",
         "\\bprotected\\b", "\\bpackage\\b", "\\bstatic\\s*\\{", "\\bSystem\\.", "\\bThread\\b", "\\bRandom\\b",
     };
+
+    /** What the class calls of the library (rule 4), on a class's name. */
+    private static final List<String> LIBRARY = List.of("Math.max", "Math.min", "Integer.bitCount");
+
+    /** What it throws (rule 6). */
+    private static final List<String> THROWN = List.of("IllegalStateException", "IllegalArgumentException",
+            "IndexOutOfBoundsException", "ArithmeticException", "UnsupportedOperationException",
+            "NoSuchElementException");
+
+    private static final int LONGEST_METHOD = 60;
 
     public static void main(String[] args) throws IOException {
         String text = Files.readString(Path.of(args[0]));
@@ -25,7 +37,51 @@ public final class LanguageTest {
         Check.isTrue("rule 11: some twelve classes", count(code, "\\bclass \\w+") <= 12);
         Check.isTrue("rule 9: no loop without a bound", !code.contains("while (true)") && !code.contains("for (;;)"));
         Check.same("rule 4: signs 1 to 127", count(text, "[^\\x01-\\x7f]"), 0);
+        for (String each : found(code, "\\b[A-Z][a-z]\\w*\\.[a-z]\\w*")) {
+            Check.isTrue("rule 4: " + each, LIBRARY.contains(each));
+        }
+        for (String each : found(code, "(?<=throw new )\\w+\\(\"[^\"]*\"\\);")) {
+            Check.isTrue("rule 6: " + each, THROWN.contains(each.substring(0, each.indexOf('('))));
+        }
+        Check.same("rule 6: each with a written text", count(code, "\\bthrow\\b"),
+                count(code, "\\bthrow new \\w+\\(\"[^\"]*\"\\);"));
+        String withoutTexts = code.replaceAll("\"[^\"]*\"", "text");
+        Check.same("rule 10: no text is joined by +", count(withoutTexts, "\\btext\\s*\\+|\\+\\s*text\\b"), 0);
+        methodsAreShort(code);
         Check.end();
+    }
+
+    private static void methodsAreShort(String code) {
+        String name = "\\b(?!(?:if|for|while|switch)\\b)\\w+";
+        Matcher head = Pattern.compile(name + "\\([^()]*\\)(?:\\s+throws[\\w,\\s]+)?\\s*\\{").matcher(code);
+        int methods = 0;
+        while (head.find()) {
+            methods++;
+            String body = code.substring(head.start(), closing(code, head.end()));
+            Check.isTrue("rule 11: a short method: " + head.group(), count(body, "\n") < LONGEST_METHOD);
+        }
+        Check.isTrue("rule 11: all methods of the face were found, and more", methods > 39);
+    }
+
+    /** The place behind the brace that closes what has been opened just before the start. */
+    private static int closing(String code, int start) {
+        int open = 1;
+        int place = start;
+        while (open > 0 && place < code.length()) {
+            char sign = code.charAt(place);
+            open += sign == '{' ? 1 : sign == '}' ? -1 : 0;
+            place++;
+        }
+        return place;
+    }
+
+    private static TreeSet<String> found(String text, String pattern) {
+        TreeSet<String> all = new TreeSet<>();
+        Matcher found = Pattern.compile(pattern).matcher(text);
+        while (found.find()) {
+            all.add(found.group());
+        }
+        return all;
     }
 
     private static int count(String text, String pattern) {

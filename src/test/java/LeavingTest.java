@@ -22,6 +22,9 @@ public final class LeavingTest {
         wrong();
         nextToLeave();
         nextOfTwo();
+        storeOfAnEarlierQuestion();
+        faultOfAnEarlierQuestion();
+        earlierQuestionsDoNotMatter();
         Check.end();
     }
 
@@ -272,5 +275,87 @@ public final class LeavingTest {
         expect("both in three ticks", x, 0, 3);
         expect("both in three ticks", x, 1, 3);
         Check.same("promise 33: the higher station first", x.nextToLeave(), 1);
+    }
+
+    /** The first question is asked while the store has the units that the second one must not find there. */
+    private static void storeOfAnEarlierQuestion() {
+        Lineclock x = new Lineclock();
+        x.addStation(1, 0, 4, 4);
+        x.supply(0, 4);
+        x.addCar(0);
+        Check.same("promise 31: before the round", x.leavesIn(0), 2);
+        x.tick(10);
+        x.addCar(1);
+        x.addCar(1);
+        x.tick(2);
+        Check.same("promise 31: the first one has all", Snapshot.trace(x, 1), "0+x");
+        // Not by Check.fails, which asks other questions before this one.
+        String due = "UnsupportedOperationException";
+        Check.same("promise 31: the second one gets none", Snapshot.answer(() -> x.leavesIn(2)), due);
+        Check.same("promise 32: the second one gets none", Snapshot.answer(() -> x.leavesByTicks(2)), due);
+        Check.same("promise 33: nobody gets any", Snapshot.answer(() -> x.nextToLeave()), "NoSuchElementException");
+    }
+
+    /** When the first question is asked the car would lack its part for ever; then it is fitted after all. */
+    private static void faultOfAnEarlierQuestion() {
+        Lineclock x = new Lineclock();
+        x.addStation(2, 0, 1, 4);
+        x.addStation(3, -1, 0, 0);
+        x.setPeriod(1);
+        x.addCar(1);
+        expectLate("no part", x, 0);
+        x.supply(0, 1);
+        x.tick(1);
+        Check.same("promise 31: fitted", Snapshot.trace(x, 0), "0+");
+        expect("along the line, without a fault", x, 0, 5);
+        Check.same("promise 33: it leaves", x.nextToLeave(), 0);
+    }
+
+    /** A line that was asked after each step answers like one that got the same steps and was never asked before. */
+    private static void earlierQuestionsDoNotMatter() {
+        Lineclock asked = new Lineclock();
+        for (int step = 0; step < 60; step++) {
+            doStep(asked, step);
+            for (int car = 0; car < asked.cars(); car++) {
+                int one = car;
+                Lineclock x = afterStep(step);
+                Lineclock y = afterStep(step);
+                Check.same("promise 31: car " + car + " after step " + step,
+                        Snapshot.answer(() -> asked.leavesIn(one)), Snapshot.answer(() -> x.leavesIn(one)));
+                Check.same("promise 32: car " + car + " after step " + step,
+                        Snapshot.answer(() -> asked.leavesByTicks(one)), Snapshot.answer(() -> y.leavesByTicks(one)));
+            }
+            Lineclock z = afterStep(step);
+            Check.same("promise 33: after step " + step,
+                    Snapshot.answer(() -> asked.nextToLeave()), Snapshot.answer(() -> z.nextToLeave()));
+        }
+        Check.isTrue("promise 31: some have left meanwhile", asked.left() > 3);
+        Check.isTrue("promise 31: some have looped meanwhile", asked.countOf('L') > 3);
+    }
+
+    private static Lineclock afterStep(int last) {
+        Lineclock x = new Lineclock();
+        for (int step = 0; step <= last; step++) {
+            doStep(x, step);
+        }
+        return x;
+    }
+
+    private static void doStep(Lineclock x, int step) {
+        if (step < 3) {
+            x.addStation(1 + step, step - 1, 2, 4);
+        } else if (step % 6 == 3) {
+            x.addCar(step % 4);
+        } else if (step % 10 == 4) {
+            x.supply(step % 20 / 10, 3);
+        } else if (step % 13 == 0) {
+            x.setPeriod(step % 8 + 2);
+        } else if (step % 7 == 0) {
+            Snapshot.answer(() -> x.fault(step % 5, step % 3));
+        } else if (step % 11 == 0 && x.waiting() > 1) {
+            x.swap(x.waitingAt(0), x.waitingAt(1));
+        } else {
+            x.tick(step % 3 + 1);
+        }
     }
 }
